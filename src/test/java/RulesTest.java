@@ -1,0 +1,165 @@
+import java.lang.reflect.Constructor;
+import java.lang.reflect.Field;
+import java.lang.reflect.Method;
+import java.lang.reflect.Modifier;
+import java.nio.file.Files;
+import java.nio.file.Path;
+import java.util.Set;
+import java.util.TreeSet;
+import java.util.regex.Matcher;
+import java.util.regex.Pattern;
+
+/** What can be seen of LANGUAGE.md's rules: the face, words that are ruled out, and that calls make no objects. */
+public final class RulesTest {
+    private static final Due DUE = new Due("RulesTest");
+
+    private static Set<String> faceOfDocument() throws Exception {
+        String doc = Files.readString(Path.of("../shared/DOC.md"));
+        String block = doc.substring(doc.indexOf("```java"), doc.indexOf("```", doc.indexOf("```java") + 3));
+        Matcher lines = Pattern.compile("public (int|boolean) (\\w+)\\(([^)]*)\\);").matcher(block);
+        Set<String> face = new TreeSet<>();
+        while (lines.find()) {
+            String types = lines.group(3).replaceAll("(int|boolean) \\w+", "$1").replace(" ", "");
+            face.add(lines.group(1) + " " + lines.group(2) + "(" + types + ")");
+        }
+        return face;
+    }
+
+    private static Set<String> faceOfClass() {
+        Set<String> face = new TreeSet<>();
+        for (Method method : UnderstudyShow.class.getDeclaredMethods()) {
+            if (!Modifier.isPrivate(method.getModifiers())) {
+                StringBuilder types = new StringBuilder();
+                for (Class<?> type : method.getParameterTypes()) {
+                    types.append(types.length() == 0 ? "" : ",").append(type);
+                }
+                face.add(method.getReturnType() + " " + method.getName() + "(" + types + ")");
+            }
+        }
+        return face;
+    }
+
+    private static void face() throws Exception {
+        Set<String> want = faceOfDocument();
+        DUE.is("the document's face", want.size(), 41);
+        if (!faceOfClass().equals(want)) {
+            DUE.is("the face " + faceOfClass() + " where the document has " + want, 1, 0);
+        }
+        Set<String> names = new TreeSet<>();
+        for (Method method : UnderstudyShow.class.getDeclaredMethods()) {
+            DUE.is(method.getName() + " is a name used twice", names.add(method.getName()), true);
+        }
+        for (Field field : UnderstudyShow.class.getDeclaredFields()) {
+            boolean isNone = field.getName().equals("NONE");
+            DUE.is(field + " is not private", Modifier.isPrivate(field.getModifiers()), !isNone);
+        }
+        Constructor<?>[] constructors = UnderstudyShow.class.getDeclaredConstructors();
+        DUE.is("constructors", constructors.length, 1);
+        DUE.is("the class is final", Modifier.isFinal(UnderstudyShow.class.getModifiers()), true);
+        for (Class<?> inside : UnderstudyShow.class.getDeclaredClasses()) {
+            DUE.is(inside + " is static", Modifier.isStatic(inside.getModifiers()), true);
+            for (Method method : inside.getDeclaredMethods()) {
+                DUE.is(method + " has few parameters", method.getParameterCount() <= 7, true);
+                DUE.is(method + " has a name of the face", names(want).contains(method.getName()), false);
+            }
+            for (Field field : inside.getDeclaredFields()) {
+                boolean changes = Modifier.isStatic(field.getModifiers()) && !Modifier.isFinal(field.getModifiers());
+                DUE.is(field + " is static and changes", changes, false);
+            }
+        }
+    }
+
+    private static Set<String> names(Set<String> face) {
+        Set<String> names = new TreeSet<>();
+        for (String line : face) {
+            names.add(line.substring(line.indexOf(' ') + 1, line.indexOf('(')));
+        }
+        return names;
+    }
+
+    private static void words() throws Exception {
+        String source = Files.readString(Path.of("src/main/java/UnderstudyShow.java"));
+        String code = source.replaceAll("(?s)/\\*.*?\\*/", "").replaceAll("//.*", "").replaceAll("\"[^\"\n]*\"", "\"\"");
+        String[] ruledOut = {"\\bthrow\\b", "\\btry\\b", "\\bcatch\\b", "\\bsynchronized\\b", "\\bassert\\b", "->", "::",
+            "\\bimport\\b", "\\bpackage\\b", "\\bprotected\\b", "\\bequals\\b", "\\bhashCode\\b", "\\btoString\\b",
+            "\"\"\\s*\\+", "\\+\\s*\"\"", "Exact\\b", "\\bObject\\b", "\\bvar\\s+\\w+\\s*="};
+        for (String word : ruledOut) {
+            DUE.is("the source has " + word, Pattern.compile(word).matcher(code).find(), false);
+        }
+        for (int i = 0; i < source.length(); i++) {
+            if (source.charAt(i) > 126) {
+                DUE.is("a sign of the source", source.charAt(i), ' ');
+            }
+        }
+    }
+
+    private static void callAll(UnderstudyShow x) {
+        Due.put(x, "person a 5 1 1; person b 7 2 2; person c 9 3 3; part p 5 1 1; part q 8 2 2; writes = 1; dogs = 40;");
+        x.read();
+        x.place();
+        x.count(4);
+        x.person(0, 5);
+        x.part(0, 5);
+        x.tells(0, 0, 0);
+        x.move(0, 6);
+        x.write(0, 7);
+        x.keepOff(1, true);
+        x.days(30);
+        x.undo();
+        x.hold(1);
+        x.restore(1);
+        x.empty();
+        x.given(-1);
+        x.given(1);
+        x.whole();
+        x.costs(0, 1);
+        x.rather(0);
+        x.ways();
+        x.fairest();
+        x.bestHour(0, 0);
+        x.trade(0, 1);
+        x.key();
+        x.crowd(0);
+        x.habit(0, 0);
+        x.regular(0, 0);
+        x.settles();
+        x.missed(0);
+        x.drift(0, 60);
+        x.meet(0);
+        x.away();
+        x.then(0, 60, 1);
+        x.marksIn(0, 60);
+        x.star(60, 0);
+        x.year(60, 20);
+        x.tell(0, 5, true);
+        x.who(1, 0);
+        x.ask(1, 5);
+        x.forget();
+    }
+
+    private static void callsMakeNothing() {
+        com.sun.management.ThreadMXBean threads =
+            (com.sun.management.ThreadMXBean) java.lang.management.ManagementFactory.getThreadMXBean();
+        long id = Thread.currentThread().getId();
+        UnderstudyShow x = new UnderstudyShow();
+        callAll(x);
+        long before = threads.getThreadAllocatedBytes(id);
+        for (int i = 0; i < 12; i++) {
+            callAll(x);
+        }
+        long made = threads.getThreadAllocatedBytes(id) - before;
+        // the test's own texts are some 1,000 bytes a round; an array in each call would be far more
+        DUE.is("bytes made by 500 calls: " + made, made < 100000, true);
+        before = threads.getThreadAllocatedBytes(id);
+        new UnderstudyShow();
+        made = threads.getThreadAllocatedBytes(id) - before;
+        DUE.is("bytes made by the constructor: " + made, made < 80000, true);
+    }
+
+    public static void main(String[] args) throws Exception {
+        face();
+        words();
+        callsMakeNothing();
+        DUE.end();
+    }
+}
