@@ -765,7 +765,7 @@ public final class UnderstudyShow {
         private static final int VAR = 10000;
         private static final int SIGN = 20000;
         /** No int of 32 bits, and below all of them: held to 0, as a LAW is that divides by 0. */
-        private static final long DIVIDED_BY_ZERO = Long.MIN_VALUE;
+        private static final long DIVIDED_BY_ZERO = -(1L << 62);
 
         private final int[] steps = new int[MOST_STEPS];
         private final int[] starts = new int[MOST_IFS * SUMS_AN_IF + 2];

@@ -110,6 +110,9 @@ public final class GivingTest {
         DUE.is("18: nobody is 0", x.rather(0), 1);
         DUE.is("18: b and q", x.rather(1), 11);
         DUE.is("18: by LEAST", Due.show(ENVY + "least 16; stands = 16 - which - apart;").rather(0), 0);
+        x = Due.show("person a 5 1 1; part p 5 1 1; part q 5 1 1; stands = which; least 0;");
+        DUE.is("18: 1 is more than nobody", x.rather(0), 1);
+        DUE.is("18: a and q", x.rather(1), 1);
         x = Due.show(THREE);
         DUE.is("18: none", x.rather(0), 0);
         DUE.is("18: none", x.rather(1), -2);

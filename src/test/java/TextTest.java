@@ -240,6 +240,41 @@ public final class TextTest {
         DUE.is("4: no parts", x.count(1), 0);
     }
 
+    private static void everyReadBeginsAnew() {
+        UnderstudyShow x = new UnderstudyShow();
+        for (int i = 0; i < 30; i++) {
+            Due.put(x, "person a 5 1 1; part p 5 1 1; stands = 40; marks = 7; writes = 1; dogs = 99; least 9; seed 4;");
+            DUE.is("4: all told", x.read(), 0);
+            x.hold(0);
+            x.days(1 + i % 3);
+            x.tell(0, 1, true);
+            if (i % 2 == 0) {
+                Due.put(x, "least 100;");
+                DUE.is("4: a fault", x.read(), 5);
+            }
+            Due.put(x, "person a 5 1 1; person b 15 1 1; part p 5 1 1; part q 5 1 1;");
+            DUE.is("4: nothing told", x.read(), 0);
+            DUE.is("4: STANDS if not told", x.tells(0, 0, 0), 10);
+            DUE.is("4: WRITES if not told", x.tells(0, 0, 1), 0);
+            DUE.is("4: MARKS if not told", x.tells(0, 0, 2), 1);
+            DUE.is("4: DOGS if not told", x.part(0, 5), 0);
+            DUE.is("4: LEAST if not told", x.empty(), 2);
+            x.move(1, 6);
+            DUE.is("4: LEAST if not told", x.empty(), 0);
+            DUE.is("4: no slot", x.count(11), 0);
+            DUE.is("4: nothing TOLD", x.count(10), 0);
+        }
+        // the LOT of SEED 0 on the first day is 90, of SEED 9 it is 97
+        for (int i = 0; i < 3; i++) {
+            Due.put(x, "person a 5 1 1; part p 5 1 1; dogs = 95; seed 9;");
+            x.read();
+            DUE.is("4: SEED told", x.then(0, 1, 0), 5);
+            Due.put(x, "person a 5 1 1; part p 5 1 1; dogs = 95;");
+            x.read();
+            DUE.is("4: SEED if not told", x.then(0, 1, 0), 6);
+        }
+    }
+
     private static void theLastOneCounts() {
         UnderstudyShow x = Due.show("person a 5 1 1; part p 5 1 1; marks = 3; marks = if 1 < 2 then 4 else 5; stands = 9;"
             + "least 50; least 9; seed 3; marks = 6; writes = 3; dogs = 5; seed 0; stands = 8; dogs = 6;");
@@ -261,6 +296,7 @@ public final class TextTest {
         room();
         twiceAndWrong();
         whatAReadChanges();
+        everyReadBeginsAnew();
         theLastOneCounts();
         DUE.end();
     }
