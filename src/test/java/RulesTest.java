@@ -9,7 +9,7 @@ import java.util.TreeSet;
 import java.util.regex.Matcher;
 import java.util.regex.Pattern;
 
-/** What can be seen of LANGUAGE.md's rules: the face, words that are ruled out, and that calls make no objects. */
+/** What can be seen of LANGUAGE.md's rules: the face, words that are ruled out, and how much calls make. */
 public final class RulesTest {
     private static final Due DUE = new Due("RulesTest");
 
@@ -45,10 +45,7 @@ public final class RulesTest {
         if (!faceOfClass().equals(want)) {
             DUE.is("the face " + faceOfClass() + " where the document has " + want, 1, 0);
         }
-        Set<String> names = new TreeSet<>();
-        for (Method method : UnderstudyShow.class.getDeclaredMethods()) {
-            DUE.is(method.getName() + " is a name used twice", names.add(method.getName()), true);
-        }
+        privateNames(UnderstudyShow.class, want);
         for (Field field : UnderstudyShow.class.getDeclaredFields()) {
             boolean isNone = field.getName().equals("NONE");
             DUE.is(field + " is not private", Modifier.isPrivate(field.getModifiers()), !isNone);
@@ -60,12 +57,19 @@ public final class RulesTest {
             DUE.is(inside + " is static", Modifier.isStatic(inside.getModifiers()), true);
             for (Method method : inside.getDeclaredMethods()) {
                 DUE.is(method + " has few parameters", method.getParameterCount() <= 7, true);
-                DUE.is(method + " has a name of the face", names(want).contains(method.getName()), false);
             }
+            privateNames(inside, want);
             for (Field field : inside.getDeclaredFields()) {
                 boolean changes = Modifier.isStatic(field.getModifiers()) && !Modifier.isFinal(field.getModifiers());
                 DUE.is(field + " is static and changes", changes, false);
             }
+        }
+    }
+
+    private static void privateNames(Class<?> where, Set<String> face) {
+        for (Method method : where.getDeclaredMethods()) {
+            boolean isPrivate = Modifier.isPrivate(method.getModifiers());
+            DUE.is(method + " has a name of the face", isPrivate && names(face).contains(method.getName()), false);
         }
     }
 
@@ -80,9 +84,10 @@ public final class RulesTest {
     private static void words() throws Exception {
         String source = Files.readString(Path.of("src/main/java/UnderstudyShow.java"));
         String code = source.replaceAll("(?s)/\\*.*?\\*/", "").replaceAll("//.*", "").replaceAll("\"[^\"\n]*\"", "\"\"");
-        String[] ruledOut = {"\\bthrow\\b", "\\btry\\b", "\\bcatch\\b", "\\bsynchronized\\b", "\\bassert\\b", "->", "::",
-            "\\bimport\\b", "\\bpackage\\b", "\\bprotected\\b", "\\bequals\\b", "\\bhashCode\\b", "\\btoString\\b",
-            "\"\"\\s*\\+", "\\+\\s*\"\"", "Exact\\b", "\\bObject\\b", "\\bvar\\s+\\w+\\s*="};
+        String[] ruledOut = {"\\bthrows?\\b", "\\btry\\b", "\\bcatch\\b", "\\bsynchronized\\b", "\\bassert\\b", "::",
+            "(?m)^(?!\\s*(case|default)\\b).*->", "\\bimport (?!java\\.util\\.(ArrayList|List|Arrays|Iterator);)", "\\bpackage\\b",
+            "\\bprotected\\b", "\\bhashCode\\b", "\"\"\\s*\\+", "\\+\\s*\"\"", "Exact\\b", "\\bstatic \\{", "\\bThread\\b",
+            "\\bSystem\\.(?!arraycopy\\b)", "\\bRandom\\b"};
         for (String word : ruledOut) {
             DUE.is("the source has " + word, Pattern.compile(word).matcher(code).find(), false);
         }
@@ -137,29 +142,47 @@ public final class RulesTest {
         x.forget();
     }
 
-    private static void callsMakeNothing() {
+    /** All calls of one run live in one room of 7.3 million fields and elements; told here in bytes, four of each. */
+    private static final long ROOM = 4 * 7300000L;
+
+    private static long bytesMade(Runnable calls) {
         com.sun.management.ThreadMXBean threads =
             (com.sun.management.ThreadMXBean) java.lang.management.ManagementFactory.getThreadMXBean();
         long id = Thread.currentThread().getId();
-        UnderstudyShow x = new UnderstudyShow();
-        callAll(x);
         long before = threads.getThreadAllocatedBytes(id);
-        for (int i = 0; i < 12; i++) {
-            callAll(x);
-        }
-        long made = threads.getThreadAllocatedBytes(id) - before;
-        // the test's own texts are some 1,000 bytes a round; an array in each call would be far more
-        DUE.is("bytes made by 500 calls: " + made, made < 100000, true);
-        before = threads.getThreadAllocatedBytes(id);
-        new UnderstudyShow();
-        made = threads.getThreadAllocatedBytes(id) - before;
-        DUE.is("bytes made by the constructor: " + made, made < 80000, true);
+        calls.run();
+        return threads.getThreadAllocatedBytes(id) - before;
+    }
+
+    private static void callsMakeLittle() {
+        UnderstudyShow x = new UnderstudyShow();
+        // each round is some 50 calls, of 512 that an object is used for
+        long made = bytesMade(() -> {
+            for (int round = 0; round < 10; round++) {
+                callAll(x);
+            }
+        });
+        DUE.is("bytes made by 500 calls: " + made, made < ROOM / 10, true);
+        String most = "person a 1 1 1; person b 2 2 2; person c 3 3 3; person d 4 4 4; person e 5 5 5; person f 6 6 6; person g 7 7 7;"
+            + "part p 7 1 1; part q 6 2 2; part r 5 3 3; part s 4 4 4; part t 3 5 5; part u 2 6 6; stands = 50; writes = 1; dogs = 50;";
+        UnderstudyShow y = Due.show(most);
+        made = bytesMade(() -> {
+            for (int call = 0; call < 50; call++) {
+                y.year(60, 20);
+                y.days(60);
+                y.given(-1);
+                y.bestHour(0, 0);
+            }
+        });
+        DUE.is("bytes made by the dearest calls: " + made, made < ROOM / 10, true);
+        made = bytesMade(() -> new UnderstudyShow());
+        DUE.is("bytes made by the constructor: " + made, made < ROOM / 100, true);
     }
 
     public static void main(String[] args) throws Exception {
         face();
         words();
-        callsMakeNothing();
+        callsMakeLittle();
         DUE.end();
     }
 }

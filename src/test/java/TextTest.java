@@ -242,7 +242,8 @@ public final class TextTest {
 
     private static void everyReadBeginsAnew() {
         UnderstudyShow x = new UnderstudyShow();
-        for (int i = 0; i < 30; i++) {
+        // an object is used for 512 calls at most
+        for (int i = 0; i < 12; i++) {
             Due.put(x, "person a 5 1 1; part p 5 1 1; stands = 40; marks = 7; writes = 1; dogs = 99; least 9; seed 4;");
             DUE.is("4: all told", x.read(), 0);
             x.hold(0);

@@ -1,21 +1,42 @@
 /** What is due of a test, and how many answers were not so. */
 public final class Due {
     private final String test;
+    private String sentence = "";
     private int wrong = 0;
 
     public Due(String test) {
         this.test = test;
     }
 
+    /** What follows is due by this sentence of the document, which has it word by word. */
+    public void says(String sentence) {
+        this.sentence = " by: " + sentence;
+        if (!Document.words().contains(sentence)) {
+            wrong++;
+            System.out.println(test + ": the document does not say: " + sentence);
+        }
+    }
+
     public void is(String call, int got, int want) {
         if (got != want) {
             wrong++;
-            System.out.println(test + ": " + call + " answered " + got + ", due is " + want);
+            System.out.println(test + ": " + call + " answered " + got + ", due is " + want + sentence);
         }
     }
 
     public void is(String call, boolean got, boolean want) {
         is(call, got ? 1 : 0, want ? 1 : 0);
+    }
+
+    /** Rows of answers, the first that differs being told. */
+    public void are(String calls, int[] got, int[] want) {
+        is(calls + ": how many answers", got.length, want.length);
+        for (int i = 0; i < got.length && i < want.length; i++) {
+            if (got[i] != want[i]) {
+                is(calls + ": answer " + i, got[i], want[i]);
+                return;
+            }
+        }
     }
 
     public void end() {
