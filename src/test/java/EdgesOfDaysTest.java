@@ -422,6 +422,12 @@ public final class EdgesOfDaysTest {
         x.keepOff(1, true);
         int[][] off = {{1, 9, 0, -2, 23, 0}, {23, 0, 9, 0, 0, 23}};
         parts("with one kept off", x, off);
+        UnderstudyShow first = Due.show("person a 5 1 1; part p 5 1 1; dogs = 7 + hour;");
+        DUE.is("DOGS are asked for first", first.part(0, 5), 12);
+        first.keepOff(0, true);
+        DUE.is("DOGS of nobody now", first.part(0, 5), 0);
+        first.undo();
+        DUE.is("DOGS again", first.part(0, 5), 12);
         int[] wrong = {-1, -2, 2, 5, 6, 24, MAX, MIN};
         for (int other : wrong) {
             DUE.is("part(" + other + ", 0)", x.part(other, 0), -1);

@@ -142,6 +142,16 @@ public final class EdgesOfGivingTest {
         DUE.is("not", Due.show("person a 1 1 1; part p 1 1 1; stands = 3; least 4;").costs(0, 0), -2);
         DUE.is("at one hour alone", Due.show("person a 1 1 1; part p 1 1 1; stands = if hour < 23 then 0 else 1;").costs(0, 0), 2);
         DUE.is("by LEAST 0", Due.show("person a 1 1 1; part p 1 1 1; stands = 0; least 0;").costs(0, 0), 0);
+        UnderstudyShow no = Due.show("person a 0 1 1; part p 5 1 1; stands = if hour < 0 then 9 else if 23 < hour then 9 else 0;");
+        DUE.is("no HOUR is below 0 or above 23", no.costs(0, 0), -2);
+        DUE.is("no HOUR is below 0 or above 23", no.whole(), -2);
+        for (int hour = 0; hour < 24; hour++) {
+            UnderstudyShow one = Due.show("person a 5 1 1; part p 5 1 1; stands = if hour < " + hour + " then 0 else if "
+                + hour + " < hour then 0 else 9;");
+            int hours = Math.abs(hour - 5);
+            DUE.is("to the HOUR " + hour + " alone", one.costs(0, 0), Math.min(hours, 24 - hours));
+            DUE.is("to the HOUR " + hour + " alone", one.whole(), Math.min(hours, 24 - hours));
+        }
         x.keepOff(0, true);
         DUE.is("one kept off is given nothing", x.costs(0, 0), -2);
         DUE.is("another is", x.costs(1, 0), 2);

@@ -70,6 +70,8 @@ public final class EdgesOfSupposingTest {
             best("the nearest of two", Due.show("person a " + hour + " 1 1; part p " + other + " 1 1; part q " + near + " 1 1;"
                 + "stands = 9 - apart * 9;"), near, 9);
         }
+        best("no HOUR is below 0 or above 23", Due.show("person a 7 1 1; part p 5 1 1;"
+            + "stands = if hour < 0 then 9 else if 23 < hour then 9 else 0;"), 7, 0);
         best("of all that are CAST", Due.show("person a 5 1 1; person b 6 1 1; part p 5 1 1; part q 20 1 1;"), 20, 19);
         UnderstudyShow x = Due.show("person a 5 1 1; person b 6 1 1; part p 5 1 1; part q 20 1 1;");
         x.keepOff(0, true);
@@ -178,7 +180,12 @@ public final class EdgesOfSupposingTest {
     private static void habitsAndRegulars() {
         DUE.says("HABIT of a PERSON: the PART as which they were seen most often, of alike ones the first; how often.");
         UnderstudyShow x = Due.show("person a 5 1 1; person b 5 1 1; part p 5 1 1; part q 5 1 1; stands = 9;");
-        x.days(2);
+        x.days(1);
+        habit(x, "once", 0, 0, 1);
+        habit(x, "once", 1, 1, 1);
+        regular(x, "once", 0, 0, 1);
+        regular(x, "once", 1, 1, 1);
+        x.days(1);
         x.keepOff(0, true);
         x.days(1);
         habit(x, "once less", 1, 1, 2);
@@ -231,6 +238,8 @@ public final class EdgesOfSupposingTest {
         }
         DUE.is("the slower of two", Due.show("person a 2 1 1; person b 9 1 1; part p 0 1 1; part q 14 1 1;"
             + "stands = 50; writes = 1;").settles(), 5);
+        DUE.is("the slower one first", Due.show("person a 5 1 1; person b 12 1 1; part p 0 1 1; part q 14 1 1; stands = 50; writes = 1;").settles(), 5);
+        DUE.is("the first PART alone", Due.show("person a 5 1 1; person b 14 1 1; part p 0 1 1; part q 14 1 1; stands = 50; writes = 1;").settles(), 5);
         int[] lasts = {0, 1, 2, 99, 100, 101};
         for (int last : lasts) {
             UnderstudyShow x = Due.show(TO_AND_FRO + "writes = if day < " + last + " then 1 else 0;");

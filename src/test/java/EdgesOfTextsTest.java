@@ -526,6 +526,51 @@ public final class EdgesOfTextsTest {
         }
     }
 
+    /** Many texts behind one another: nothing of an earlier one is left in a later one. */
+    private static void textBehindText() {
+        DUE.says("else it is in place of the one ahead:");
+        String ifs = "stands = if 1 < 2 then 40 else if 2 < 3 then 50 else 60; writes = if 2 < 1 then 0 else 3;"
+            + "marks = if 1 < 2 then 9 else 8; dogs = if 3 < 2 then 1 else 100; least 30; seed 77;";
+        String large = "person a 1 1 1; person b 2 1 1; person c 3 1 1; part p 7 1 1; part q 6 1 1; part r 5 1 1; part s 4 1 1;" + ifs;
+        String[] small = {"person c 1 1 1; person b 7 1 1; person a 9 1 1; part s 1 1 1; part r 23 1 1;", "person b 1 1 1; part a 12 9 9;",
+            "part q 1 1 1; part p 1 1 1;", "person p 5 5 5; person q 5 5 5;", ""};
+        for (String text : small) {
+            int[] due = Look.at(Due.show(text));
+            UnderstudyShow x = new UnderstudyShow();
+            for (int i = 0; i < 3; i++) {
+                Due.put(x, large);
+                DUE.is("read() of the large one", x.read(), GOOD);
+                DUE.is("STANDS", x.tells(2, 3, 0), 40);
+                x.given(-1);
+                x.days(1);
+                Due.put(x, text);
+                DUE.is("read() of " + text, x.read(), GOOD);
+                DUE.are("a small text behind a large one: " + text, Look.at(x), due);
+            }
+        }
+    }
+
+    private static void faultBehindFault() {
+        DUE.says("A text with a FAULT changes nothing but the tape;");
+        String[] faulty = {"marks = ((((((", "person z 1 1 1; part y 1 1 1; marks = 5 * (4 + (3 - (2 /", "least 9; stands = if 1 < 2 then (3",
+            "person c 1 1 1; person c 1 1 1;", "part s 1 1 1; least 100;", "marks = 1 + 2 * 3 - (4 + 5) * (6 <"};
+        String text = "person a 1 1 1; person b 2 1 1; part p 1 1 1; stands = 50 - (1 + 2 * (3 + which)) * 4 + 30 / (2 + 3); marks = 2 * 3 + 4;";
+        int[] due = Look.at(Due.show(text));
+        for (String wrong : faulty) {
+            UnderstudyShow x = new UnderstudyShow();
+            for (int i = 0; i < 12; i++) {
+                Due.put(x, wrong);
+                DUE.is("read() of " + wrong, x.read() > 0, true);
+            }
+            Due.put(x, text);
+            DUE.is("read() behind faulty ones", x.read(), GOOD);
+            DUE.are("a text behind faulty ones: " + wrong, Look.at(x), due);
+            Due.put(x, wrong);
+            DUE.is("read() of " + wrong, x.read() > 0, true);
+            DUE.are("a faulty text behind a good one: " + wrong, Look.at(x), due);
+        }
+    }
+
     private static void aNewObject() {
         DUE.says("No PEOPLE, no PARTS.");
         UnderstudyShow x = new UnderstudyShow();
@@ -671,6 +716,8 @@ public final class EdgesOfTextsTest {
         twice();
         aFaultChangesNothing();
         aTextIsInPlaceOfTheOneAhead();
+        textBehindText();
+        faultBehindFault();
         aNewObject();
         feeding();
         aFullTape();

@@ -303,6 +303,14 @@ public final class EdgesOfToldTest {
         x.hold(2);
         // p is at 3 and q at 2: a is p by 8, b is q by 2
         count(x, "then", 4, 2, 2, 2, 10, 20, 8, 4, 19, 2, 1, 2, 4, 14);
+        x.move(0, 12);
+        // a is p by 3, b is q by 2
+        count(x, "all far away", 4, 2, 2, 2, 5, 20, 8, 4, 19, 3, 1, 2, 4, 19);
+        x.undo();
+        UnderstudyShow idle = Due.show("person a 5 9 9; person b 5 1 1; person c 5 9 9; part p 5 1 1;");
+        DUE.is("the first and the last are nothing", idle.count(12), 5);
+        idle.keepOff(1, true);
+        DUE.is("all but one kept off are nothing", idle.count(12), 5);
         for (int person = 0; person < 3; person++) {
             x.keepOff(person, true);
         }

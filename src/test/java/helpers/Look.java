@@ -51,7 +51,11 @@ public final class Look {
                 all.add(x.part(part, what));
             }
             all.add(x.then(part, 2, 0));
+            all.add(x.given(part));
         }
+        all.add(x.given(-1));
+        all.add(x.whole());
+        all.add(x.fairest());
         all.add(x.ways());
         all.add(x.year(3, 5));
         for (int k = 0; k <= x.count(10); k++) {
