@@ -147,17 +147,6 @@ public final class EdgesOfDaysTest {
         }
     }
 
-    /** By numbers that do not wrap, the rest by 2 to the 32nd being taken. */
-    private static int lot(int seed, int which) {
-        long h = seed;
-        long[] its = {143, which};
-        for (long it : its) {
-            h = ((h ^ it) * 1103515245L + 12345L) % 4294967296L;
-            h = h ^ h / 32768;
-        }
-        return (int) (h / 2 % 100);
-    }
-
     private static int dogsBehind(int seed, int day, int part, int chance) {
         UnderstudyShow x = Due.show("person a 5 1 1; person b 5 1 1; person c 5 1 1; part p 5 1 1; part q 5 1 1; part r 5 1 1;"
             + "stands = 50; seed " + seed + "; dogs = if day < " + day + " then 0 else if which < " + part
@@ -178,7 +167,7 @@ public final class EdgesOfDaysTest {
         for (int seed : seeds) {
             for (int day : days) {
                 for (int part = 0; part < 3; part++) {
-                    int lot = lot(seed, 8 * day + part);
+                    int lot = Lots.lot(seed, 8 * day + part);
                     String which = "SEED " + seed + ", day " + day + ", PART " + part;
                     DUE.is("no DOG by the LOT itself: " + which, dogsBehind(seed, day, part, lot), 0);
                     DUE.is("a DOG by one more: " + which, dogsBehind(seed, day, part, lot + 1), 1);
@@ -327,12 +316,12 @@ public final class EdgesOfDaysTest {
         }
         // a LOT can be 0, and is not less than 0
         int seed = 0;
-        while (lot(seed, 0) != 0) {
+        while (Lots.lot(seed, 0) != 0) {
             seed++;
         }
         DUE.is("LOT 0, DOGS 0, SEED " + seed, dogsBehind(seed, 0, 0, 0), 0);
         DUE.is("LOT 0, DOGS 1, SEED " + seed, dogsBehind(seed, 0, 0, 1), 1);
-        while (lot(seed, 0) != 99) {
+        while (Lots.lot(seed, 0) != 99) {
             seed++;
         }
         DUE.is("LOT 99, DOGS 99, SEED " + seed, dogsBehind(seed, 0, 0, 99), 0);

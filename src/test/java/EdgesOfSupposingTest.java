@@ -404,21 +404,10 @@ public final class EdgesOfSupposingTest {
         wrongPairs("star", x::star, 60, 2, 1, 0);
     }
 
-    /** By numbers that do not wrap, the rest by 2 to the 32nd being taken. */
-    private static int lot(int seed, int which) {
-        long h = seed;
-        long[] its = {143, which};
-        for (long it : its) {
-            h = ((h ^ it) * 1103515245L + 12345L) % 4294967296L;
-            h = h ^ h / 32768;
-        }
-        return (int) (h / 2 % 100);
-    }
-
     private static boolean isWholeBehind(int seed, int day, int n, int chance) {
         boolean whole = true;
         for (int i = 0; i < n; i++) {
-            whole &= lot(seed, 8 * (day + i)) >= chance;
+            whole &= Lots.lot(seed, 8 * (day + i)) >= chance;
         }
         return whole;
     }

@@ -530,19 +530,22 @@ public final class EdgesOfTextsTest {
     private static void textBehindText() {
         DUE.says("else it is in place of the one ahead:");
         String ifs = "stands = if 1 < 2 then 40 else if 2 < 3 then 50 else 60; writes = if 2 < 1 then 0 else 3;"
-            + "marks = if 1 < 2 then 9 else 8; dogs = if 3 < 2 then 1 else 100; least 30; seed 77;";
+            + "marks = if 1 < 2 then 9 else 8; dogs = if 3 < 2 then 1 else 100; least 30; seed 9;";
         String large = "person a 1 1 1; person b 2 1 1; person c 3 1 1; part p 7 1 1; part q 6 1 1; part r 5 1 1; part s 4 1 1;" + ifs;
         String[] small = {"person c 1 1 1; person b 7 1 1; person a 9 1 1; part s 1 1 1; part r 23 1 1;", "person b 1 1 1; part a 12 9 9;",
-            "part q 1 1 1; part p 1 1 1;", "person p 5 5 5; person q 5 5 5;", ""};
+            "part q 1 1 1; part p 1 1 1;", "person p 5 5 5; person q 5 5 5;", "", "person c 5 1 1; part s 5 1 1; dogs = 91;"};
         for (String text : small) {
             int[] due = Look.at(Due.show(text));
             UnderstudyShow x = new UnderstudyShow();
             for (int i = 0; i < 3; i++) {
-                Due.put(x, large);
-                DUE.is("read() of the large one", x.read(), GOOD);
-                DUE.is("STANDS", x.tells(2, 3, 0), 40);
-                x.given(-1);
-                x.days(1);
+                // once, twice, and thrice, so that whatever is used in turns is used for both
+                for (int times = 0; times <= i; times++) {
+                    Due.put(x, large);
+                    DUE.is("read() of the large one", x.read(), GOOD);
+                    DUE.is("STANDS", x.tells(2, 3, 0), 40);
+                    x.given(-1);
+                    x.days(1);
+                }
                 Due.put(x, text);
                 DUE.is("read() of " + text, x.read(), GOOD);
                 DUE.are("a small text behind a large one: " + text, Look.at(x), due);
