@@ -431,6 +431,32 @@ public final class EdgesOfTextsTest {
         text("least 100;" + "seed 1;".repeat(133), ROOM, 10 + 132 * 7 + 5);
     }
 
+    /** A text of so many TOKENS (6 or more), made of TELLS of three and of four. */
+    private static String filler(int tokens) {
+        int fours = tokens % 3;
+        return "seed 1;".repeat((tokens - 4 * fours) / 3) + "dogs=1;".repeat(fours);
+    }
+
+    private static void theFourHundredFirstAnywhere() {
+        DUE.says("of one place the least: 1 SYNTAX: a TOKEN, or what is none, with which no text goes on. 2 ROOM: a 401st TOKEN;");
+        String[] tells = {"person ann 1 2 3 ;", "part coach 1 2 3 ;", "stands = apart + 2 * ( 3 - 4 ) / 5 ;", "least 5 ;", "seed 6 ;",
+            "marks = if 1 < 2 then 3 else if ( 4 ) < day then 5 else 6 ;"};
+        for (String tell : tells) {
+            List<String> tokens = List.of(tell.split(" "));
+            for (int many = 1; many < tokens.size(); many++) {
+                String cut = filler(400 - many) + String.join(" ", tokens.subList(0, many)) + " ";
+                text(cut + tokens.get(many), ROOM, cut.length());
+                text(cut + "least", SYNTAX, cut.length());
+                text(cut + "!", SYNTAX, cut.length());
+                text(cut, SYNTAX, cut.length());
+            }
+            String whole = filler(400 - tokens.size()) + tell;
+            good(whole);
+            text(whole + "person", ROOM, whole.length());
+            text(whole + "then", SYNTAX, whole.length());
+        }
+    }
+
     private static void theFifthIf() {
         DUE.says("a 5th if of a LAW (at it);");
         for (String law : List.of("stands", "writes", "marks", "dogs")) {
@@ -714,6 +740,7 @@ public final class EdgesOfTextsTest {
         leastAndSeed();
         theFirstFault();
         theFourHundredFirst();
+        theFourHundredFirstAnywhere();
         theFifthIf();
         theSeventhBracket();
         twice();

@@ -2,7 +2,6 @@ import java.io.IOException;
 import java.nio.file.Files;
 import java.nio.file.Path;
 import java.util.ArrayList;
-import java.util.Comparator;
 import java.util.List;
 import java.util.regex.Matcher;
 import java.util.regex.Pattern;
@@ -12,7 +11,9 @@ import java.util.stream.Stream;
 public final class SentencesTest {
     private static final String PIECE = "\"(?:[^\"\\\\]|\\\\.)*\"";
     private static final Pattern SAYS = Pattern.compile("DUE\\.says\\((" + PIECE + "(?:\\s*\\+\\s*" + PIECE + ")*)\\)");
-    private static final String[] NO_SENTENCES = {"```text", "```", "==== \\w+\\.", "## Terms", "## Promise \\d+: [\\w ]+ `[^`]*`:"};
+    private static final String[] NO_SENTENCES =
+        {"```text", "```", "==== \\w+\\.", "## Terms", "## Promise \\d+: [\\w ]+ `[^`]*`:"};
+    private static final String COVERED = "~";
 
     private static List<String> sentences() throws IOException {
         List<String> sentences = new ArrayList<>();
@@ -24,21 +25,28 @@ public final class SentencesTest {
                 }
             }
         }
-        // the longest first, so that a short one takes nothing out of the middle of a long one
-        sentences.sort(Comparator.comparing(String::length).reversed());
         return sentences;
     }
 
+    /** The document with a sign in place of each letter that a sentence covers; sentences may overlap. */
+    private static String withoutThem(String document, List<String> sentences) {
+        StringBuilder rest = new StringBuilder(document);
+        for (String sentence : sentences) {
+            for (int at = document.indexOf(sentence); at >= 0; at = document.indexOf(sentence, at + 1)) {
+                rest.replace(at, at + sentence.length(), COVERED.repeat(sentence.length()));
+            }
+        }
+        return rest.toString();
+    }
+
     public static void main(String[] args) throws IOException {
-        String rest = Document.words();
-        rest = rest.substring(rest.indexOf("## Terms"), rest.indexOf("## Not promised"));
-        for (String sentence : sentences()) {
-            rest = rest.replace(sentence, "|");
-        }
+        String document = Document.words();
+        document = document.substring(document.indexOf("## Terms"), document.indexOf("## Not promised"));
+        String rest = withoutThem(document, sentences());
         for (String other : NO_SENTENCES) {
-            rest = rest.replaceAll(other, "|");
+            rest = rest.replaceAll(other, COVERED);
         }
-        rest = rest.replaceAll("[|, ]+", " ").trim();
+        rest = rest.replaceAll("[~, ]+", " ").trim();
         if (!rest.isEmpty()) {
             System.out.println("SentencesTest: no test of edges is about: " + rest);
             System.exit(1);
