@@ -1,7 +1,5 @@
-import com.sun.source.tree.AssertTree;
 import com.sun.source.tree.BinaryTree;
 import com.sun.source.tree.BlockTree;
-import com.sun.source.tree.CatchTree;
 import com.sun.source.tree.ClassTree;
 import com.sun.source.tree.CompilationUnitTree;
 import com.sun.source.tree.CompoundAssignmentTree;
@@ -9,17 +7,12 @@ import com.sun.source.tree.DoWhileLoopTree;
 import com.sun.source.tree.ExpressionTree;
 import com.sun.source.tree.ForLoopTree;
 import com.sun.source.tree.ImportTree;
-import com.sun.source.tree.LambdaExpressionTree;
 import com.sun.source.tree.LiteralTree;
-import com.sun.source.tree.MemberReferenceTree;
 import com.sun.source.tree.MethodInvocationTree;
 import com.sun.source.tree.MethodTree;
 import com.sun.source.tree.NewClassTree;
 import com.sun.source.tree.ParenthesizedTree;
-import com.sun.source.tree.SynchronizedTree;
-import com.sun.source.tree.ThrowTree;
 import com.sun.source.tree.Tree;
-import com.sun.source.tree.TryTree;
 import com.sun.source.tree.VariableTree;
 import com.sun.source.tree.WhileLoopTree;
 import com.sun.source.util.JavacTask;
@@ -58,6 +51,10 @@ public final class CodeTest extends TreePathScanner<Void, Void> {
     private static final int MOST_CLASSES = 12;
     private static final int MOST_FIELDS = 20;
 
+    /** Sorts of code that may stand nowhere, with the rule that says so. */
+    private static final Map<Tree.Kind, Integer> RULED_OUT = Map.of(Tree.Kind.LAMBDA_EXPRESSION, 2,
+        Tree.Kind.MEMBER_REFERENCE, 2, Tree.Kind.THROW, 6, Tree.Kind.TRY, 6, Tree.Kind.CATCH, 6, Tree.Kind.SYNCHRONIZED, 6,
+        Tree.Kind.ASSERT, 6);
     private static final Set<String> IMPORTS =
         Set.of("java.util.ArrayList", "java.util.List", "java.util.Arrays", "java.util.Iterator");
     private static final Map<String, Set<String>> LIBRARY = Map.of(
@@ -75,7 +72,9 @@ public final class CodeTest extends TreePathScanner<Void, Void> {
     private static final Pattern TYPES = Pattern.compile("(int|long|short|byte|char|boolean|double|float)(\\[\\]){0,2}"
         + "|UnderstudyShow(\\.\\w+(<[\\w.]+>)?)?(\\[\\])?|java\\.lang\\.(String|StringBuilder|Integer)"
         + "|java\\.util\\.(ArrayList|List|Iterator)<(UnderstudyShow\\.\\w+|java\\.lang\\.Integer)>|[A-Z]");
-    private static final Pattern STATIC_TYPES = Pattern.compile("int|long|boolean|char|java\\.lang\\.String|(int|long|char|byte)\\[\\]");
+    /** The last one is for an enum's values(), kept once. */
+    private static final Pattern STATIC_TYPES = Pattern.compile("int|long|boolean|char|java\\.lang\\.String|(int|long|char|byte)\\[\\]"
+        + "|UnderstudyShow\\.\\w+\\[\\]");
 
     private final Trees trees;
     private final CompilationUnitTree unit;
@@ -107,45 +106,11 @@ public final class CodeTest extends TreePathScanner<Void, Void> {
     }
 
     @Override
-    public Void visitLambdaExpression(LambdaExpressionTree tree, Void none) {
-        against(2, tree, "a lambda");
-        return super.visitLambdaExpression(tree, none);
-    }
-
-    @Override
-    public Void visitMemberReference(MemberReferenceTree tree, Void none) {
-        against(2, tree, "a method reference");
-        return super.visitMemberReference(tree, none);
-    }
-
-    @Override
-    public Void visitThrow(ThrowTree tree, Void none) {
-        against(6, tree, "throw");
-        return super.visitThrow(tree, none);
-    }
-
-    @Override
-    public Void visitTry(TryTree tree, Void none) {
-        against(6, tree, "try");
-        return super.visitTry(tree, none);
-    }
-
-    @Override
-    public Void visitCatch(CatchTree tree, Void none) {
-        against(6, tree, "catch");
-        return super.visitCatch(tree, none);
-    }
-
-    @Override
-    public Void visitSynchronized(SynchronizedTree tree, Void none) {
-        against(6, tree, "synchronized");
-        return super.visitSynchronized(tree, none);
-    }
-
-    @Override
-    public Void visitAssert(AssertTree tree, Void none) {
-        against(6, tree, "assert");
-        return super.visitAssert(tree, none);
+    public Void scan(Tree tree, Void none) {
+        if (tree != null && RULED_OUT.containsKey(tree.getKind())) {
+            against(RULED_OUT.get(tree.getKind()), tree, "" + tree.getKind());
+        }
+        return super.scan(tree, none);
     }
 
     @Override
@@ -159,7 +124,7 @@ public final class CodeTest extends TreePathScanner<Void, Void> {
 
     // ---- loops and operators ----
 
-    private void end(Tree loop, ExpressionTree condition) {
+    private void lookForEnd(Tree loop, ExpressionTree condition) {
         Tree inside = condition;
         while (inside instanceof ParenthesizedTree brackets) {
             inside = brackets.getExpression();
@@ -172,19 +137,19 @@ public final class CodeTest extends TreePathScanner<Void, Void> {
 
     @Override
     public Void visitWhileLoop(WhileLoopTree tree, Void none) {
-        end(tree, tree.getCondition());
+        lookForEnd(tree, tree.getCondition());
         return super.visitWhileLoop(tree, none);
     }
 
     @Override
     public Void visitDoWhileLoop(DoWhileLoopTree tree, Void none) {
-        end(tree, tree.getCondition());
+        lookForEnd(tree, tree.getCondition());
         return super.visitDoWhileLoop(tree, none);
     }
 
     @Override
     public Void visitForLoop(ForLoopTree tree, Void none) {
-        end(tree, tree.getCondition());
+        lookForEnd(tree, tree.getCondition());
         return super.visitForLoop(tree, none);
     }
 
